@@ -46,20 +46,15 @@ public final class Promise10RootsTest {
         return found;
     }
 
-    /** No N has more roots than 2^17 * 3^3 has: 512 modulo 2^17 times 6 modulo 27. */
+    /**
+     * 4193376 = 24 * 418^2: no N has more roots, for each prime's share of them is at most the
+     * square root of its part of N, but for 2 (times the root of 2) and 3 (times 2 / root of 3).
+     */
     private static void checkMost() {
-        int n = 3538944;
-        int most = 0;
-        int square = 0;
-        int[] due = counts(n);
-        for (int d = 0; d < n; d++) {
-            if (due[d] > most) {
-                most = due[d];
-                square = d;
-            }
-        }
+        int n = 4193376;
+        int square = 418 * 418;
         RootFinder finder = Plain.taken(n);
-        checkOne(finder, n, square, 3072);
-        Due.is(n + ": count(5)", finder.count(5), 3072);
+        checkOne(finder, n, square, counts(n)[square]);
+        Due.is(n + ": count(5)", finder.count(5), 3344);
     }
 }

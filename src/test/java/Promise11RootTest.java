@@ -19,6 +19,7 @@ public final class Promise11RootTest {
         }
         check(3538944, 16384L * 9);
         check(3538944, 65536L * 9);
+        check(4193376, 418L * 418);
         checkLatest();
         Due.end();
     }
