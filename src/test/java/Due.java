@@ -34,6 +34,23 @@ final class Due {
         }
     }
 
+    /** A case of its own: it is named if it is broken, and the cases behind it are still run. */
+    static void test(String sentence, Runnable body) {
+        int wrongBefore = wrong;
+        int checkedBefore = checked;
+        try {
+            body.run();
+        } catch (RuntimeException e) {
+            report("nothing is due to be thrown here, but there came " + e);
+        }
+        if (checked == checkedBefore) {
+            report("nothing was checked");
+        }
+        if (wrong != wrongBefore) {
+            System.out.println("BROKEN: " + sentence);
+        }
+    }
+
     private static void report(String text) {
         wrong++;
         if (wrong <= 20) {

@@ -31,6 +31,30 @@ final class Plain {
         return found;
     }
 
+    /** At n: how many primes n has, for all n at once. */
+    static byte[] primeCounts() {
+        byte[] found = new byte[GREATEST + 1];
+        for (int p = 2; p <= GREATEST; p++) {
+            if (found[p] == 0) {
+                for (int n = p; n <= GREATEST; n += p) {
+                    found[n]++;
+                }
+            }
+        }
+        return found;
+    }
+
+    /** At n: how many divisors n has, for all n at once. */
+    static short[] divisorCounts() {
+        short[] found = new short[GREATEST + 1];
+        for (int x = 1; x <= GREATEST; x++) {
+            for (int n = x; n <= GREATEST; n += x) {
+                found[n]++;
+            }
+        }
+        return found;
+    }
+
     static int exponent(int n, int p) {
         int found = 0;
         for (int rest = n; rest % p == 0; rest /= p) {
@@ -117,6 +141,15 @@ final class Plain {
             }
         }
         return -1;
+    }
+
+    /** At d: how many roots d has modulo n, for all d from 0 to n - 1 at once. */
+    static int[] rootCounts(int n) {
+        int[] found = new int[n];
+        for (long x = 0; x < n; x++) {
+            found[(int) (x * x % n)]++;
+        }
+        return found;
     }
 
     static List<Integer> roots(long d, int n) {

@@ -17,7 +17,7 @@ public final class Promise10RootsTest {
     }
 
     private static void check(int n, int step) {
-        int[] due = counts(n);
+        int[] due = Plain.rootCounts(n);
         RootFinder finder = Plain.taken(n);
         for (int d = 0, calls = 0; d < n; d += step, calls++) {
             if (calls == 200) {
@@ -38,14 +38,6 @@ public final class Promise10RootsTest {
         Due.is(n + ": roots(" + d + ")", finder.roots(d), want);
     }
 
-    private static int[] counts(int n) {
-        int[] found = new int[n];
-        for (long x = 0; x < n; x++) {
-            found[(int) (x * x % n)]++;
-        }
-        return found;
-    }
-
     /**
      * 4193376 = 24 * 418^2: no N has more roots, for each prime's share of them is at most the
      * square root of its part of N, but for 2 (times the root of 2) and 3 (times 2 / root of 3).
@@ -54,7 +46,7 @@ public final class Promise10RootsTest {
         int n = 4193376;
         int square = 418 * 418;
         RootFinder finder = Plain.taken(n);
-        checkOne(finder, n, square, counts(n)[square]);
+        checkOne(finder, n, square, Plain.rootCounts(n)[square]);
         Due.is(n + ": count(5)", finder.count(5), 3344);
     }
 }
