@@ -57,9 +57,7 @@ public final class Edge04ExponentTest {
     }
 
     private static void refuses(int n, int k) {
-        RootFinder finder = Plain.taken(n);
-        Due.isThrown(n + ": exponent(" + k + ")", NONE, () -> finder.exponent(k));
-        Due.is(n + ": count(0) after exponent(" + k + ")", finder.count(0), n);
+        Known.taken(n).refuses("exponent(" + k + ")", NONE, finder -> finder.exponent(k));
     }
 
     private static void refusedByAll(int k) {
